@@ -7,6 +7,7 @@ public final class FaultTest {
         redundant();
         correlated();
         general();
+        firstAndLastPacket();
         firstThatApplies();
         onlyEarlierRulesCount();
         earlierRuleWithoutPackets();
@@ -186,6 +187,30 @@ public final class FaultTest {
         Check.add(x, 1, 0, 9, 9, 9, 9, 2);
         Check.add(x, 2, 1, 8, 15, 8, 15, 2);
         expect("inside, not in front", x, RuleAnomaly.CLEAN, RuleAnomaly.CLEAN, RuleAnomaly.GENERAL);
+    }
+
+    /** Faults that hang on the first packet alone, or on the last one. */
+    private static void firstAndLastPacket() {
+        for (int end = 0; end <= 1; end++) {
+            int v = 15 * end;
+            String story = "packet " + 511 * end;
+            RuleAnomaly x = none();
+            Check.add(x, 0, 1, v, v, v, v, end);
+            expect(story + " allowed alone", x, RuleAnomaly.CLEAN);
+            Check.add(x, 1, 0, 0, 15, 0, 15, 2);
+            x.insert(2, 0);
+            expect(story + " decided otherwise", x, RuleAnomaly.CLEAN, RuleAnomaly.REDUNDANT, RuleAnomaly.SHADOWED);
+
+            x = none();
+            Check.add(x, 0, 0, v, v, 0, 15, end);
+            Check.add(x, 1, 1, 0, 15, v, v, end);
+            expect(story + " in common", x, RuleAnomaly.CLEAN, RuleAnomaly.CORRELATED);
+
+            x = none();
+            Check.add(x, 0, 0, v, v, v, v, 2);
+            Check.add(x, 1, 1, 0, 15, 0, 15, 1 - end);
+            expect(story + " matched by the earlier rule alone", x, RuleAnomaly.CLEAN, RuleAnomaly.CORRELATED);
+        }
     }
 
     private static void firstThatApplies() {
